@@ -378,14 +378,14 @@ public final class PartPages {
         private final int[] figures = new int[MOST_BARS * MOST_NOTES * NOTE_FIGURES];
 
         int size(int slot) {
-            return isWithin(slot, 0, MOST_BARS - 1) ? sizes[slot] : 0;
+            return slot >= 0 && slot < MOST_BARS ? sizes[slot] : 0;
         }
 
         int figure(int slot, int k, int what) {
-            if (!isWithin(k, 0, size(slot) - 1) || !isWithin(what, 0, NOTE_FIGURES - 1)) {
+            if (slot < 0 || slot >= MOST_BARS || k < 0 || k >= sizes[slot] || what < 0 || what >= NOTE_FIGURES) {
                 return NONE;
             }
-            return figures[placeOf(slot, k) + what];
+            return figures[(slot * MOST_NOTES + k) * NOTE_FIGURES + what];
         }
 
         int total() {
@@ -407,7 +407,7 @@ public final class PartPages {
 
         void insert(int slot, int start, int length, int pitch, int spelling) {
             int held = size(slot);
-            if (!isWithin(slot, 0, MOST_BARS - 1) || held >= MOST_NOTES) {
+            if (slot < 0 || slot >= MOST_BARS || held >= MOST_NOTES) {
                 return;
             }
             int k = held;
@@ -544,7 +544,7 @@ public final class PartPages {
         }
 
         private static boolean isPlace(int bar, int kind) {
-            return isWithin(bar, 0, MOST_BARS - 1) && isWithin(kind, 0, KINDS - 1);
+            return bar >= 0 && bar < MOST_BARS && kind >= 0 && kind < KINDS;
         }
     }
 
@@ -607,7 +607,7 @@ public final class PartPages {
         }
 
         Voice voiceAt(int number) {
-            return isWithin(number, 0, MOST_VOICES - 1) ? voices[number] : null;
+            return number >= 0 && number < MOST_VOICES ? voices[number] : null;
         }
 
         Part partOf(int number) {
@@ -616,7 +616,7 @@ public final class PartPages {
         }
 
         boolean hasBar(int bar) {
-            return isWithin(bar, 0, barCount - 1);
+            return bar >= 0 && bar < barCount;
         }
 
         int resize(int n) {
@@ -692,18 +692,18 @@ public final class PartPages {
         }
 
         boolean hasRow(int i) {
-            return isWithin(i, 0, rowCount - 1);
+            return i >= 0 && i < rowCount;
         }
 
         int figure(int i, int what) {
-            if (!hasRow(i) || !isWithin(what, 0, ROW_FIGURES - 1)) {
+            if (!hasRow(i) || what < 0 || what >= ROW_FIGURES) {
                 return NONE;
             }
             return figures[i * ROW_FIGURES + what];
         }
 
         void setFigure(int i, int what, int value) {
-            if (hasRow(i) && isWithin(what, 0, ROW_FIGURES - 1)) {
+            if (hasRow(i) && what >= 0 && what < ROW_FIGURES) {
                 figures[i * ROW_FIGURES + what] = value;
             }
         }
@@ -744,7 +744,8 @@ public final class PartPages {
 
         /** Whether a PAGE may end beside this ROW, as its player has time to turn. */
         boolean isLongRest(int i) {
-            return figure(i, SORT) == SORT_REST && figure(i, BARS_LONG) >= 2;
+            return i >= 0 && i < rowCount && figures[i * ROW_FIGURES + SORT] == SORT_REST
+                    && figures[i * ROW_FIGURES + BARS_LONG] >= 2;
         }
     }
 
@@ -755,15 +756,11 @@ public final class PartPages {
 
         static void make(Score score, Voice player, Part part) {
             part.clear();
-            if (player.notes.total() > 0) {
-                addRows(score, player, part);
-            } else if (score.barCount > 0) {
-                finishRow(score, player, part, part.addRow(SORT_TACET, 0, score.barCount));
-            }
-        }
-
-        private static void addRows(Score score, Voice player, Part part) {
             int behind = 0;
+            if (player.notes.total() == 0 && score.barCount > 0) {
+                finishRow(score, player, part, part.addRow(SORT_TACET, 0, score.barCount));
+                behind = score.barCount;
+            }
             for (int bar = 0; bar < score.barCount; bar++) {
                 if (bar >= behind) {
                     behind = bar + addRowAt(score, player, part, bar);
@@ -847,11 +844,17 @@ public final class PartPages {
 
         void arrange(Part part, int wide, int high) {
             fillSystems(part, wide);
-            fillPages(part, high);
+            pageCount = 0;
+            int behind = 0;
+            for (int system = 0; system < systemCount; system++) {
+                if (system >= behind) {
+                    behind = system + addPage(part, system, high);
+                }
+            }
         }
 
         int figure(int p, int what) {
-            if (!isWithin(p, 0, pageCount - 1) || !isWithin(what, 0, PAGE_FIGURES - 1)) {
+            if (p < 0 || p >= pageCount || what < 0 || what >= PAGE_FIGURES) {
                 return NONE;
             }
             return figures[p * PAGE_FIGURES + what];
@@ -876,16 +879,6 @@ public final class PartPages {
             if (systemCount < MOST_BARS) {
                 systemRows[systemCount] = row;
                 systemCount++;
-            }
-        }
-
-        private void fillPages(Part part, int high) {
-            pageCount = 0;
-            int behind = 0;
-            for (int system = 0; system < systemCount; system++) {
-                if (system == behind) {
-                    behind = system + addPage(part, system, high);
-                }
             }
         }
 
@@ -924,7 +917,7 @@ public final class PartPages {
         }
 
         private int rowAt(int system) {
-            return isWithin(system, 0, systemCount) ? systemRows[system] : NONE;
+            return system >= 0 && system <= systemCount ? systemRows[system] : NONE;
         }
     }
 }

@@ -162,8 +162,15 @@ public final class PartPagesPromises {
         due("bars: new ones have no marks", NONE, x.unmark(5, 1));
         due("bars: old ones have theirs", 3, x.unmark(4, 0));
         due("bars: old ones have notes", 1, x.drop(0, 4));
+        for (int kind = 0; kind <= 4; kind++) {
+            x.mark(0, kind, 1);
+            x.mark(39, kind, 1);
+        }
+        due("bars: marks in the first and the last", 10, x.count(5));
         due("bars: to none", 40, x.bars(0));
-        due("bars: from none", 0, x.bars(0));
+        due("bars: all marks are gone", 0, x.count(5));
+        due("bars: from none", 0, x.bars(40));
+        due("bars: none comes back", 0, x.count(5));
     }
 
     // promise 4
@@ -198,6 +205,7 @@ public final class PartPagesPromises {
         due("note: 8", 8, x.note(0, 0, 4, 1, 60, 0));
         due("note: 9", ROOM, x.note(0, 0, 5, 1, 60, 0));
         due("note: state before room", STATE, x.note(0, 0, 4, 1, 60, 0));
+        due("note: state of the first one", STATE, x.note(0, 0, 0, 1, 0, 0));
         due("note: outside before room", OUTSIDE, x.note(0, 0, 5, 1, 60, 1));
         due("note: room is by bars", 1, x.note(0, 1, 5, 1, 60, 0));
         due("note: all", 9, x.count(2));
@@ -216,6 +224,12 @@ public final class PartPagesPromises {
         noteIs("order", x, 0, 0, 2, 12, 7, 0, 0);
         noteIs("order", x, 0, 0, 3, 24, 5, 48, 0);
         noteIs("order", x, 0, 0, 4, 24, 3, 60, 0);
+        x.drop(0, 0);
+        x.note(0, 0, 0, 1, 61, 19);
+        x.note(0, 0, 1, 1, 63, -15);
+        x.extract(0);
+        noteIs("most spelling stays", x, 0, 0, 0, 0, 1, 61, 19);
+        noteIs("least spelling stays", x, 0, 0, 1, 1, 1, 63, -15);
     }
 
     // promise 5
@@ -386,6 +400,10 @@ public final class PartPagesPromises {
         x.drop(1, 7);
         x.extract(0);
         due("cueing: none when all are empty", 1, x.row(0, 3, 0));
+        x.bars(40);
+        c(x, 1, 39);
+        x.extract(0);
+        rowIs("cueing: none in the last bar of all", x, 0, 5, 1, 9, 31, 2, 0, 0, NONE);
     }
 
     private static void cueSource() {
@@ -577,6 +595,10 @@ public final class PartPagesPromises {
         due("unlike: length", 2, x.unlike(0));
         x.drop(0, 10);
         x.note(0, 10, 1, 47, 60, 0);
+        due("unlike: start and length", 2, x.unlike(0));
+        x.extract(0);
+        x.drop(0, 10);
+        x.note(0, 10, 0, 47, 60, 0);
         due("unlike: start", 2, x.unlike(0));
         due("unlike: the part stays", 4, x.page(0, 0, 1));
         x.extract(0);
