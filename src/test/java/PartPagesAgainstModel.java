@@ -5,13 +5,16 @@ import java.util.Map;
 import java.util.Random;
 import java.util.TreeMap;
 import java.util.TreeSet;
+import java.util.function.ToIntFunction;
 
 // Long runs of calls, the same each time, on PartPages and on a plain second program written from the document.
 public final class PartPagesAgainstModel {
-    private static final int RUNS = 300;
-    // With what is looked at behind them these are more than the 512 calls of which the document tells;
-    // PartPages does not count its calls, so longer runs only find more.
-    private static final int CALLS = 512;
+    private static final int RUNS = 500;
+    private static final int STEPS = 512;
+    // The document tells nothing of an object behind these; what is looked at then is looked at in a new one like it.
+    private static final int MOST_CALLS = 512;
+    // The last step may bring some more; the calls behind them are left for looks.
+    private static final int MOST_CHANGES = 320;
     private static final int MOST_TOLD = 20;
 
     private static int wrong = 0;
@@ -49,7 +52,10 @@ public final class PartPagesAgainstModel {
     private static final class Run {
         final int number;
         final Random random;
-        final PartPages real = new PartPages();
+        // Every call that may change something, so that an object can be made like the one before it.
+        final List<ToIntFunction<PartPages>> changes = new ArrayList<>();
+        PartPages real = new PartPages();
+        int used = 0;
         final Model model = new Model();
         final int voices;
         final int dense;
@@ -63,13 +69,30 @@ public final class PartPagesAgainstModel {
 
         void go() {
             for (int call = 0; call < voices; call++) {
-                same("voice()", real.voice(), model.voice());
+                same("voice()", change(PartPages::voice), model.voice());
             }
             int bars = random.nextInt(8) == 0 ? random.nextInt(41) : 20 + random.nextInt(21);
-            same("bars(" + bars + ")", real.bars(bars), model.bars(bars));
-            for (int call = voices + 1; call < CALLS; call++) {
-                one(call < CALLS / 3);
+            same("bars(" + bars + ")", change(x -> x.bars(bars)), model.bars(bars));
+            for (int step = 0; step < STEPS && changes.size() < MOST_CHANGES; step++) {
+                one(changes.size() < MOST_CHANGES / 2);
             }
+        }
+
+        /** The object for one call more; all that it has answered is as the model's. */
+        PartPages real() {
+            if (used == MOST_CALLS) {
+                real = new PartPages();
+                changes.forEach(call -> call.applyAsInt(real));
+                used = changes.size();
+            }
+            used++;
+            return real;
+        }
+
+        int change(ToIntFunction<PartPages> call) {
+            int got = call.applyAsInt(real());
+            changes.add(call);
+            return got;
         }
 
         int voice() {
@@ -109,36 +132,36 @@ public final class PartPagesAgainstModel {
                 case 8 -> {
                     int bar = bar(), kind = from(0, 4);
                     int value = kind == 0 ? from(-7, 7) : from(0, 999);
-                    same("mark", real.mark(bar, kind, value), model.mark(bar, kind, value));
+                    same("mark", change(x -> x.mark(bar, kind, value)), model.mark(bar, kind, value));
                 }
                 case 9 -> {
                     int v = voice(), f = from(-6, 6), o = from(-2, 2);
-                    same("instrument", real.instrument(v, f, o), model.instrument(v, f, o));
+                    same("instrument", change(x -> x.instrument(v, f, o)), model.instrument(v, f, o));
                 }
                 case 10 -> {
                     int n = random.nextInt(3) == 0 ? from(1, 40) : from(1, 5);
-                    same("cueing", real.cueing(n), model.cueing(n));
+                    same("cueing", change(x -> x.cueing(n)), model.cueing(n));
                 }
                 case 11, 12 -> {
                     int v = voice();
-                    same("extract", real.extract(v), model.extract(v));
+                    same("extract", change(x -> x.extract(v)), model.extract(v));
                     lookAt(v);
                 }
                 case 13 -> {
                     int bar = bar(), kind = from(0, 4);
-                    same("unmark", real.unmark(bar, kind), model.unmark(bar, kind));
+                    same("unmark", change(x -> x.unmark(bar, kind)), model.unmark(bar, kind));
                 }
                 case 14 -> {
                     int n = random.nextInt(4) == 0 ? from(0, 40) : Math.max(0, model.bars + random.nextInt(5) - 2);
-                    same("bars(" + n + ")", real.bars(n), model.bars(n));
+                    same("bars(" + n + ")", change(x -> x.bars(n)), model.bars(n));
                 }
                 case 15, 16 -> {
                     int v = voice(), bar = bar();
-                    same("drop", real.drop(v, bar), model.drop(v, bar));
+                    same("drop", change(x -> x.drop(v, bar)), model.drop(v, bar));
                 }
                 case 17, 18, 19 -> {
                     int v = voice();
-                    same("unlike(" + v + ")", real.unlike(v), model.unlike(v));
+                    same("unlike(" + v + ")", real().unlike(v), model.unlike(v));
                 }
                 case 20, 21 -> {
                     int v = voice();
@@ -146,17 +169,17 @@ public final class PartPagesAgainstModel {
                     if (kept > 0 && kept < model.parts[v].pages(model.wide, model.high).size()) {
                         meet("renew keeps some");
                     }
-                    same("renew(" + v + ")", real.renew(v), kept);
+                    same("renew(" + v + ")", change(x -> x.renew(v)), kept);
                     lookAt(v);
                 }
                 case 22 -> {
                     int v = voice();
-                    same("tacet", real.tacet(v), model.tacet(v));
+                    same("tacet", real().tacet(v), model.tacet(v));
                 }
                 case 23, 24 -> {
                     int w = random.nextBoolean() ? from(8, 12) : from(8, 60);
                     int h = random.nextBoolean() ? from(1, 4) : from(1, 12);
-                    same("lay(" + w + ", " + h + ")", real.lay(w, h), model.lay(w, h));
+                    same("lay(" + w + ", " + h + ")", change(x -> x.lay(w, h)), model.lay(w, h));
                     for (int v = 0; v < 6; v++) {
                         lookAtPages(v);
                     }
@@ -165,19 +188,19 @@ public final class PartPagesAgainstModel {
                     int v = voice(), o = voice(), bar = bar();
                     int want = model.condensed(v, o, bar);
                     meet("condensed " + want);
-                    same("condensed", real.condensed(v, o, bar), want);
+                    same("condensed", real().condensed(v, o, bar), want);
                 }
                 case 27 -> {
                     int v = voice(), o = voice();
-                    same("together", real.together(v, o), model.together(v, o));
+                    same("together", real().together(v, o), model.together(v, o));
                 }
                 case 28 -> {
                     int what = from(0, 5);
-                    same("count(" + what + ")", real.count(what), model.count(what));
+                    same("count(" + what + ")", real().count(what), model.count(what));
                 }
                 default -> {
                     if (random.nextInt(6) == 0) {
-                        same("voice()", real.voice(), model.voice());
+                        same("voice()", change(PartPages::voice), model.voice());
                     } else {
                         wrongLooks();
                     }
@@ -200,12 +223,16 @@ public final class PartPagesAgainstModel {
                 if (random.nextInt(60) == 0) {
                     pitch++;
                 }
-                same("note", real.note(v, bar, start, length, pitch, spelling),
-                        model.note(v, bar, start, length, pitch, spelling));
+                note(v, bar, start, length, pitch, spelling);
             }
             if (random.nextInt(4) == 0) {
                 copyBar(v, bar);
             }
+        }
+
+        void note(int v, int bar, int start, int length, int pitch, int spelling) {
+            same("note", change(x -> x.note(v, bar, start, length, pitch, spelling)),
+                    model.note(v, bar, start, length, pitch, spelling));
         }
 
         /** UNISON and JOINED hardly come by chance. */
@@ -215,11 +242,10 @@ public final class PartPagesAgainstModel {
             }
             int other = random.nextInt(voices);
             boolean alike = random.nextBoolean();
-            same("drop", real.drop(other, bar), model.drop(other, bar));
+            same("drop", change(x -> x.drop(other, bar)), model.drop(other, bar));
             for (int[] n : new ArrayList<>(model.notes(v, bar))) {
                 int pitch = alike || n[2] + 12 > 127 ? n[2] : n[2] + 12;
-                same("note", real.note(other, bar, n[0], n[1], pitch, n[3]),
-                        model.note(other, bar, n[0], n[1], pitch, n[3]));
+                note(other, bar, n[0], n[1], pitch, n[3]);
             }
         }
 
@@ -230,7 +256,7 @@ public final class PartPagesAgainstModel {
             int rows = model.parts[v].rows.size();
             for (int i = 0; i <= rows; i++) {
                 for (int what = 0; what < 7; what++) {
-                    same("row(" + v + ", " + i + ", " + what + ")", real.row(v, i, what), model.row(v, i, what));
+                    same("row(" + v + ", " + i + ", " + what + ")", real().row(v, i, what), model.row(v, i, what));
                 }
                 if (model.row(v, i, 0) == 2) {
                     meet("cue");
@@ -238,7 +264,7 @@ public final class PartPagesAgainstModel {
                 for (int k = 0; k < 9; k++) {
                     for (int what = 0; what < 4; what++) {
                         same("written(" + v + ", " + i + ", " + k + ", " + what + ")",
-                                real.written(v, i, k, what), model.written(v, i, k, what));
+                                real().written(v, i, k, what), model.written(v, i, k, what));
                     }
                 }
             }
@@ -247,10 +273,10 @@ public final class PartPagesAgainstModel {
 
         void lookAtPages(int v) {
             int held = model.pages(v);
-            same("pages(" + v + ")", real.pages(v), held);
+            same("pages(" + v + ")", real().pages(v), held);
             for (int p = 0; p <= Math.max(0, held); p++) {
                 for (int what = 0; what < 5; what++) {
-                    same("page(" + v + ", " + p + ", " + what + ")", real.page(v, p, what), model.page(v, p, what));
+                    same("page(" + v + ", " + p + ", " + what + ")", real().page(v, p, what), model.page(v, p, what));
                 }
                 if (p < held - 1) {
                     meet(model.page(v, p, 3) == 1 ? "page turns well ahead of the last" : "page turns badly");
@@ -259,15 +285,15 @@ public final class PartPagesAgainstModel {
                     }
                 }
             }
-            same("count(4)", real.count(4), model.count(4));
+            same("count(4)", real().count(4), model.count(4));
         }
 
         void wrongLooks() {
             int v = random.nextInt(8) - 1, i = odd(3), k = odd(2), what = odd(5);
-            same("row", real.row(v, i, what), model.row(v, i, what));
-            same("written", real.written(v, i, k, what), model.written(v, i, k, what));
-            same("page", real.page(v, i, what), model.page(v, i, what));
-            same("count", real.count(what), model.count(what));
+            same("row", real().row(v, i, what), model.row(v, i, what));
+            same("written", real().written(v, i, k, what), model.written(v, i, k, what));
+            same("page", real().page(v, i, what), model.page(v, i, what));
+            same("count", real().count(what), model.count(what));
         }
     }
 
